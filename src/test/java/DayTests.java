@@ -157,6 +157,12 @@ public final class DayTests {
         Due.is("P12 not one more", x.days(1), Due.STATE);
         Due.is("P13 not one more", x.loose(1), Due.STATE);
         Due.is("P14 thought goes on", x.ended(60), 0);
+        KnivesGround y = new KnivesGround();
+        for (int i = 0; i < 166; i++) {
+            y.days(60);
+        }
+        Due.is("P12 up to 9999", y.days(39), 0);
+        Due.is("P12 DAY 9999 by days", y.count(1), 9999);
     }
 
     private static void loose() {

@@ -429,6 +429,13 @@ public final class KeptTests {
         Due.is("P37 what told() tells is not kept", x.told(1), 1);
         Due.is("P37 SHEETS are not kept", x.edges(0), 1);
         Due.is("P37 nor their numbers", x.ofQuarrel(0, 3), 42);
+        KnivesGround y = new KnivesGround();
+        y.image();
+        Due.text(y, 0, "7");
+        Due.text(y, 1, "7");
+        y.restore();
+        Due.is("P38 no TEXT of USE 0, as it was", y.law(0, 0, 0, 0), 20);
+        Due.is("P38 no TEXT of USE 1, as it was", y.law(1, 0, 0, 0), 9);
     }
 
     private static void tell() {

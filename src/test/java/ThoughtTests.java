@@ -153,6 +153,13 @@ public final class ThoughtTests {
         // By this TEXT 0, where THE GRINDER is, ends by itself.
         Due.text(y, 0, "60");
         Due.is("P19 the one that hangs", y.hand(1, 1), 2);
+        // 0 and 1 end on DAY 2 by themselves, when 2 is too dull: both at once by hand, or 2 alone.
+        KnivesGround z = new KnivesGround();
+        z.quarrel(0, 2, 40, -1);
+        z.quarrel(20, 2, 0, 0);
+        z.quarrel(0, 9, 55, 1);
+        Due.is("P19 the fewest, though not the least", z.hand(2, 3), 4);
+        Due.is("P19 both in two DAYS", z.hand(2, 2), 3);
     }
 
     private static void first() {
@@ -251,6 +258,14 @@ public final class ThoughtTests {
         Due.is("P22 none has", y.last(0), Due.NONE);
         y.change(0, 2, 1);
         Due.is("P22 it had ended", y.last(1), Due.NONE);
+        KnivesGround z = new KnivesGround();
+        z.quarrel(0, 0, 0, -1);
+        z.set(1, 0);
+        Due.text(z, 0, "(a=59)*99");
+        Due.is("P22 on the last DAY", z.last(0), 0);
+        Due.is("P22 behind 60", z.last(1), 60);
+        Due.text(z, 0, "(a=60)*99");
+        Due.is("P22 a DAY too late", z.last(0), Due.NONE);
     }
 
     private static void sharp() {
@@ -268,6 +283,13 @@ public final class ThoughtTests {
         Due.is("P23 it hangs no more", x.sharp(2, 1), 50);
         Due.text(x, 0, "(e=7)*60");
         Due.is("P23 the least, though duller", x.sharp(0, 1), 7);
+        // 0 ends on DAY 19; till then 1, a FEUD that needs 80, is 19 duller.
+        KnivesGround y = new KnivesGround();
+        y.quarrel(0, 9, 0, -1);
+        y.quarrel(30, 5, 0, 0);
+        Due.text(y, 0, "(a=19)*99");
+        Due.is("P23 99", y.sharp(1, 20), 99);
+        Due.is("P23 not by 19", y.sharp(1, 19), Due.NONE);
         Due.is("P23 n 0", x.sharp(0, 0), Due.BEYOND);
         Due.is("P23 n 61", x.sharp(0, 61), Due.BEYOND);
         Due.is("P23 quarrel 3", x.sharp(3, 1), Due.BEYOND);
