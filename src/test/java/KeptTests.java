@@ -31,133 +31,6 @@ public final class KeptTests {
         Due.is("P29 12345 >>> 8 is 48", x.count(3), 8);
     }
 
-    // ---- the BODIES as Java's own classes have them
-
-    private static class Plain {
-        final int n;
-        final int m;
-        final StringBuilder trace = new StringBuilder();
-
-        Plain(int n, int m) {
-            this.n = n;
-            this.m = m;
-        }
-
-        void begin(int body) {
-            trace.append((char) body);
-        }
-
-        int grinds(int x) {
-            begin(10);
-            return x + n;
-        }
-
-        int cuts(int x) {
-            begin(11);
-            return grinds(x) * 2;
-        }
-
-        int sparks(int x) {
-            begin(12);
-            return x - m;
-        }
-
-        int tells(int x) {
-            begin(13);
-            return cuts(x) ^ sparks(x);
-        }
-    }
-
-    private static class Grudge extends Plain {
-        Grudge(int n, int m) {
-            super(n, m);
-        }
-
-        @Override
-        int grinds(int x) {
-            begin(20);
-            return super.grinds(x) * 3;
-        }
-    }
-
-    private static class Spat extends Plain {
-        Spat(int n, int m) {
-            super(n, m);
-        }
-
-        @Override
-        int cuts(int x) {
-            begin(30);
-            return super.cuts(x) - sparks(1);
-        }
-    }
-
-    private static class Feud extends Plain {
-        Feud(int n, int m) {
-            super(n, m);
-        }
-
-        @Override
-        int sparks(int x) {
-            begin(40);
-            return -super.sparks(x);
-        }
-    }
-
-    private static final class Old extends Grudge {
-        Old(int n, int m) {
-            super(n, m);
-        }
-
-        @Override
-        int tells(int x) {
-            begin(50);
-            return super.tells(x) - grinds(2);
-        }
-    }
-
-    private static final class Sulk extends Spat {
-        Sulk(int n, int m) {
-            super(n, m);
-        }
-
-        @Override
-        int cuts(int x) {
-            begin(60);
-            return super.cuts(x + 1);
-        }
-    }
-
-    private static final class Wrong extends Feud {
-        Wrong(int n, int m) {
-            super(n, m);
-        }
-
-        @Override
-        int sparks(int x) {
-            begin(70);
-            return super.sparks(x) ^ n;
-        }
-
-        @Override
-        int tells(int x) {
-            begin(71);
-            return cuts(x) - super.tells(x);
-        }
-    }
-
-    private static Plain plain(int kind, int n, int m) {
-        switch (kind) {
-            case 1: return new Grudge(n, m);
-            case 2: return new Spat(n, m);
-            case 3: return new Feud(n, m);
-            case 4: return new Old(n, m);
-            case 5: return new Sulk(n, m);
-            case 6: return new Wrong(n, m);
-            default: return new Plain(n, m);
-        }
-    }
-
     private static void voicesOfEachKind() {
         KnivesGround x = new KnivesGround();
         for (int kind = 0; kind < 7; kind++) {
@@ -168,8 +41,8 @@ public final class KeptTests {
             for (int i = 0; i < 4 * numbers.length; i++) {
                 int act = i % 4;
                 int v = numbers[i / 4];
-                Plain p = plain(kind, kind, 9 - kind);
-                int due = act == 0 ? p.grinds(v) : act == 1 ? p.cuts(v) : act == 2 ? p.sparks(v) : p.tells(v);
+                Bodies p = Bodies.of(kind, kind, 9 - kind);
+                int due = p.act(act, v);
                 String name = "P30 KIND " + kind + " act " + act + " of " + v;
                 Due.is(name, x.voice(kind, act, v), due);
                 Due.is("P31 BODIES, " + name, x.count(10), p.trace.length());
