@@ -501,6 +501,15 @@ final class GroundEdges {
         Edges.is("no DAYS", z.loose(0), Due.BEYOND);
         Edges.is("41 DAYS", z.loose(41), Due.BEYOND);
         Edges.is("DAY stays", z.count(1), 41);
+        KnivesGround draws = new KnivesGround();
+        draws.quarrel(0, 0, 10, -1);
+        draws.quarrel(20, 5, 6, -1);
+        draws.loose(1);
+        // 10 and 20 do 7, 6 does 9.
+        Edges.is("HARM by a draw", draws.count(4), 16);
+        Edges.is("PENCE by a draw", draws.count(5), 3);
+        Edges.is("EDGES by a draw", draws.ofQuarrel(0, 3) * 100 + draws.ofQuarrel(1, 3), 2700);
+        Edges.is("AGES by a draw", draws.ofQuarrel(0, 6) + draws.ofQuarrel(1, 6), 2);
         Edges.says(13, "STATE: DAY would be above 9999.");
         KnivesGround w = Edges.toDay(new KnivesGround(), 9960);
         Edges.is("40 DAYS would be 10000", w.loose(40), Due.STATE);

@@ -145,6 +145,8 @@ final class KeptEdges {
                 Edges.is("KIND " + kind + " act " + act, voice(10 * kind + 7, act, 10), due[kind][act]);
             }
         }
+        Edges.is("WRONG sparks 9: -2 ^ 2", voice(67, 2, 9), -4);
+        Edges.is("WRONG tells 12: sparks -5 ^ 2 are -7", voice(67, 3, 12), 28 - (28 ^ -7));
     }
 
     private static void traceIs(String what, KnivesGround x, int... bodies) {
@@ -287,8 +289,8 @@ final class KeptEdges {
     }
 
     private static void move() {
-        Edges.says(34, "n numbers of a SHEET, from number i on, come to another one (or the same), from its number j on,"
-            + " as they all were: n.");
+        Edges.says(34, "n numbers of a SHEET, from number i on, come to another one (or the same),"
+            + " from its number j on, as they all were: n.");
         KnivesGround x = quarrels(5);
         int[] bits = {8, 16, 32};
         for (int b : bits) {
@@ -424,8 +426,8 @@ final class KeptEdges {
     // ---- images, what is told
 
     private static void image() {
-        Edges.says(37, "All (but SHEETS, THE TRACE, what told() tells, and how often this was done) is kept as an IMAGE,"
-            + " in place of one ahead: how often that was done.");
+        Edges.says(37, "All (but SHEETS, THE TRACE, what told() tells, and how often this was done) is kept"
+            + " as an IMAGE, in place of one ahead: how often that was done.");
         KnivesGround x = Twin.some();
         Edges.is("in place of one ahead", x.image(), 2);
         int day = x.count(1);
@@ -478,12 +480,27 @@ final class KeptEdges {
         }
         KnivesGround y = new KnivesGround();
         y.image();
-        y.quarrel(0, 0, 0, -1);
+        y.quarrel(0, 0, 30, -1);
+        y.quarrel(0, 5, 0, 0);
         y.days(1);
         Edges.is("of a new object", y.restore(), 0);
         Edges.is("no QUARRELS", y.count(0), 0);
         Edges.is("no QUARREL 0", y.ofQuarrel(0, 0), Due.BEYOND);
-        Edges.is("a new one is new", y.quarrel(0, 0, 7, -1) * 10 + y.ofQuarrel(0, 6), 0);
+        y.quarrel(0, 0, 7, -1);
+        y.quarrel(0, 0, 7, -1);
+        Edges.is("a new one has not ENDED", y.ofQuarrel(0, 5), 0);
+        Edges.is("a new one's AGE", y.ofQuarrel(1, 6), 0);
+        Edges.is("a new one HANGS on none", y.ofQuarrel(1, 4), -1);
+        KnivesGround w = quarrels(1);
+        w.tell(0);
+        w.tell(0);
+        w.image();
+        w.check();
+        w.tell(5);
+        w.tell(5);
+        w.restore();
+        Edges.is("two numbers wait", w.count(9), 2);
+        Edges.is("those that did", w.check(), 0);
         Edges.says(38, "NONE: there is none.");
         KnivesGround z = Edges.toDay(new KnivesGround(), 3);
         Edges.is("at first", z.restore(), Due.NONE);

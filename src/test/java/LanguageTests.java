@@ -5,8 +5,12 @@ import java.lang.reflect.Method;
 import java.lang.reflect.Modifier;
 import java.nio.file.Files;
 import java.nio.file.Path;
+import java.util.ArrayList;
 import java.util.HashSet;
+import java.util.List;
+import java.util.Map;
 import java.util.Set;
+import java.util.TreeMap;
 import java.util.TreeSet;
 import java.util.regex.Matcher;
 import java.util.regex.Pattern;
@@ -102,6 +106,7 @@ public final class LanguageTests {
         }
         methodsAreShort(code);
         nothingIsMadeByCalls(code);
+        callsAreNotDeep(code);
     }
 
     private static void methodsAreShort(String code) {
@@ -118,6 +123,46 @@ public final class LanguageTests {
                 begin = -1;
             }
         }
+    }
+
+    /** No way through the calls passes a name twice: recursion may go deeper than eight. */
+    private static void callsAreNotDeep(String code) {
+        Map<String, Set<String>> calls = new TreeMap<>();
+        Matcher head = Pattern.compile("(?m)^ +(?:public|private) (?:static )?\\w+ (\\w+)\\([^;]*?\\{$").matcher(code);
+        List<Integer> begins = new ArrayList<>();
+        while (head.find()) {
+            calls.putIfAbsent(head.group(1), new TreeSet<>());
+            begins.add(head.start(1));
+        }
+        begins.add(code.length());
+        for (int i = 0; i + 1 < begins.size(); i++) {
+            String body = code.substring(begins.get(i), begins.get(i + 1));
+            String name = body.substring(0, body.indexOf('('));
+            Matcher call = Pattern.compile("\\b(\\w+)\\(").matcher(body.substring(body.indexOf('{')));
+            while (call.find()) {
+                if (calls.containsKey(call.group(1))) {
+                    calls.get(name).add(call.group(1));
+                }
+            }
+        }
+        Due.is("rule 11 methods were found", calls.size() > 41 ? 1 : 0, 1);
+        for (String name : calls.keySet()) {
+            int depth = depth(name, calls, new ArrayList<>());
+            Due.is("rule 11 eight calls deep at most, " + name + " " + depth, depth <= 8 ? 1 : 0, 1);
+        }
+    }
+
+    private static int depth(String name, Map<String, Set<String>> calls, List<String> open) {
+        if (open.contains(name)) {
+            return 0;
+        }
+        open.add(name);
+        int deepest = 0;
+        for (String called : calls.get(name)) {
+            deepest = Math.max(deepest, depth(called, calls, open));
+        }
+        open.remove(open.size() - 1);
+        return deepest + 1;
     }
 
     /** One room holds all calls of a run, so only fields and constructors make objects. */

@@ -445,7 +445,8 @@ final class Second {
         need(bits == 0 || bits == 8 || bits == 16 || bits == 32, Due.BEYOND);
         try {
             need(bits == 0 || n <= 40, Due.BEYOND);
-            sheets[sheet] = bits == 8 ? new byte[n] : bits == 16 ? new short[n] : bits == 32 ? (Object) new int[n] : null;
+            sheets[sheet] = bits == 8 ? new byte[n] : bits == 16 ? new short[n]
+                : bits == 32 ? (Object) new int[n] : null;
             return 1;
         } catch (NegativeArraySizeException e) {
             throw new Refused(Due.STATE);

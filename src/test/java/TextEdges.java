@@ -201,6 +201,14 @@ final class TextEdges {
         gives(1, "!!7");
         gives(1, "1|7/0");
         gives(0, "0&7/0");
+        gives(5, "(0|0)+5");
+        gives(5, "(0&7)+5");
+        gives(5, "(8<7)+5");
+        gives(5, "(6>7)+5");
+        gives(5, "(6=7)+5");
+        gives(5, "!7+5");
+        gives(8, "(0-2|0)+7");
+        gives(8, "(4&3)+7");
     }
 
     private static void faults() {
@@ -219,6 +227,7 @@ final class TextEdges {
         faultAt(0, "\u0000");
         faultAt(1, "e\u00e5");
         faultAt(49, "0+".repeat(24) + "1x");
+        eachByte();
         Edges.says(Edges.TERMS, "how many there are, if it ends too early.");
         faultAt(0, "");
         faultAt(2, "e+");
@@ -228,6 +237,25 @@ final class TextEdges {
         faultAt(2, "1<");
         faultAt(50, "e+".repeat(25));
         faultAt(50, "(" + "e+".repeat(24) + "e");
+    }
+
+    /** Of all bytes the few that are a TEXT, and the few that may stand behind a NAME. */
+    private static void eachByte() {
+        KnivesGround x = new KnivesGround();
+        for (int i = 0; i < 256; i++) {
+            boolean isText = "0123456789ead".indexOf(i) >= 0;
+            boolean isOpen = i == '!' || i == '(';
+            x.feed(i, 1);
+            Edges.is("byte " + i, x.text(0), isText ? 1 : isOpen ? -11 : -10);
+            boolean joins = "|&<=>+-*/%".indexOf(i) >= 0;
+            x = i % 100 == 0 ? new KnivesGround() : x;
+            x.feed('e' | i << 8, 2);
+            Edges.is("e and byte " + i, x.text(0), joins ? -12 : -11);
+            x.feed('9' | i << 8, 2);
+            boolean isDigit = i >= '0' && i <= '9';
+            Edges.is("9 and byte " + i, x.text(0), isDigit ? 1 : joins ? -12 : -11);
+            x = i % 60 == 0 ? new KnivesGround() : x;
+        }
     }
 
     private static void uses() {
@@ -321,6 +349,12 @@ final class TextEdges {
         Edges.is("a shorter one", Due.text(x, 0, "4"), 1);
         Edges.is("in place of the longer one", x.law(0, 0, 0, 0), 4);
         Edges.is("USE 1 stays", x.law(1, 0, 0, 0), 8);
+        for (int i = 0; i < 60; i++) {
+            Due.text(x, i % 2, "1+2+" + i);
+            Edges.is("one of many, " + i, x.law(i % 2, 0, 0, 0), 3 + i);
+        }
+        Due.text(x, 0, "4");
+        Due.text(x, 1, "8");
         Edges.says(10, "BEYOND (THE TAPE stays).");
         Due.feed(x, "9+");
         Edges.is("USE 2", x.text(2), Due.BEYOND);

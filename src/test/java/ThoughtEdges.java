@@ -169,6 +169,12 @@ final class ThoughtEdges {
         Edges.is("in 60 DAYS, with one that had", y.start(60, 1), 3);
         Edges.is("in 0 DAYS", y.start(0, 0), 0);
         Edges.is("in 0 DAYS, one that had", y.start(0, 1), 1);
+        // Only one who is elsewhere on the first DAY, and there on the next, would end it; by STEP 0 none is.
+        KnivesGround z = one(0, 30, 0);
+        Due.text(z, 0, "(e=30)+(e=27)*99");
+        Edges.is("there is no way round the AREAS", z.start(2, 1), 0);
+        z.set(1, 1);
+        Edges.is("but from 9 by STEP 1", z.start(2, 0), 9);
         Edges.is("no QUARRELS", new KnivesGround().start(60, 0), 0);
         Edges.is("none of no QUARRELS", new KnivesGround().start(60, 1), 0);
     }
@@ -236,7 +242,8 @@ final class ThoughtEdges {
     }
 
     private static void first() {
-        Edges.says(Edges.TERMS, "FIRST by n (0 to 60): the one that, had it ENDED now, makes HARM least behind n DAYS;");
+        Edges.says(Edges.TERMS, "FIRST by n (0 to 60): the one that, had it ENDED now, makes HARM least"
+            + " behind n DAYS;");
         KnivesGround x = still();
         int[] edges = {49, 20, 0, 33};
         for (int edge : edges) {
@@ -434,7 +441,8 @@ final class ThoughtEdges {
     }
 
     private static void free() {
-        Edges.says(Edges.TERMS, "FREE: those that have not ENDED, and HANG on none, or on one that has ENDED, as a set.");
+        Edges.says(Edges.TERMS, "FREE: those that have not ENDED, and HANG on none, or on one that has ENDED,"
+            + " as a set.");
         KnivesGround x = one(5, 0, 0);
         x.quarrel(0, 5, 0, 0);
         x.quarrel(0, 5, 0, 1);

@@ -137,7 +137,8 @@ public final class WholeRunTests {
                 return of(what, what < 2 ? DRAWS.near(0, 9) : DRAWS.once(2) ? 99999 - DRAWS.near(-1, 300)
                     : DRAWS.near(0, 9000));
             }
-            case "quarrel": return of(DRAWS.near(0, 69), area, DRAWS.near(0, 99), DRAWS.once(2) ? -1 : DRAWS.near(-1, q));
+            case "quarrel": return of(DRAWS.near(0, 69), area, DRAWS.near(0, 99),
+                DRAWS.once(2) ? -1 : DRAWS.near(-1, q));
             case "ofQuarrel": return of(DRAWS.near(0, q), DRAWS.near(0, 9));
             case "change": {
                 int what = DRAWS.near(0, 3);
@@ -149,7 +150,8 @@ public final class WholeRunTests {
             case "law": return of(DRAWS.near(0, 1), DRAWS.any(), DRAWS.any(), DRAWS.any());
             case "days": return of(DRAWS.once(3) ? DRAWS.near(1, 60) : DRAWS.near(1, 3));
             case "loose": return of(DRAWS.once(3) ? DRAWS.near(1, 40) : DRAWS.near(1, 3));
-            case "sheet": return of(DRAWS.near(0, 3), DRAWS.near(0, 4) * 8 % 40, DRAWS.once(2) ? q + 1 : DRAWS.near(0, 40));
+            case "sheet": return of(DRAWS.near(0, 3), DRAWS.near(0, 4) * 8 % 40,
+                DRAWS.once(2) ? q + 1 : DRAWS.near(0, 40));
             case "put": return of(DRAWS.near(0, 3), DRAWS.near(0, 9), DRAWS.once(3) ? DRAWS.any() : DRAWS.near(0, 99));
             case "move": return of(DRAWS.near(0, 3), DRAWS.near(0, 6), DRAWS.near(0, 3), DRAWS.near(0, 6),
                 DRAWS.near(0, 6));
@@ -195,8 +197,8 @@ public final class WholeRunTests {
     /** Else a run would tell less than it seems to. */
     private static void eachErrorWasMet() {
         String[] beyond = {"set", "inArea", "quarrel", "ofQuarrel", "change", "become", "as", "feed", "text", "law",
-            "days", "loose", "then", "when", "ended", "start", "pace", "hand", "first", "sparks", "last", "sharp", "off",
-            "chain", "fee", "odds", "voice", "sheet", "put", "move", "edges", "judge", "count", "told"};
+            "days", "loose", "then", "when", "ended", "start", "pace", "hand", "first", "sparks", "last", "sharp",
+            "off", "chain", "fee", "odds", "voice", "sheet", "put", "move", "edges", "judge", "count", "told"};
         String[][] others = {{"when", "first", "sparks", "last", "sharp", "hand", "trace", "put", "move", "edges",
             "judge", "restore"}, {"days", "loose", "sheet"}, {"quarrel", "feed", "tell"}, {"as", "move"}};
         for (String act : beyond) {
